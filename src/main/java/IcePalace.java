@@ -46,8 +46,8 @@ public final class IcePalace {
     /** Tries of what lies ahead are made here, so that no call makes a palace of its own. */
     private final Palace trial = new Palace();
     private boolean isKept;
-    private final Tape tape = new Tape();
-    private final TextReader reader = new TextReader(tape);
+    private final TextReader reader = new TextReader();
+    private final Tape tape = reader.tape;
     private final Sheet[] sheets = new Sheet[SHEETS];
     private final int[] found = new int[FINDINGS];
 
@@ -1180,15 +1180,11 @@ public final class IcePalace {
         private static final int MINUS = 4;
         private static final int STRANGE = 5;
 
-        private final Tape tape;
+        final Tape tape = new Tape();
         private int token;
         private int start;
         private int end;
         private int value;
-
-        TextReader(Tape tape) {
-            this.tape = tape;
-        }
 
         /** Does what the text tells to a palace: how many items; with a FAULT -1 less its place. */
         int readInto(Palace palace) {

@@ -266,6 +266,9 @@ public final class PromiseTest {
             stand("block 7;block 15;" + kind + " 16", false);
             stand("block 0;block 8;block 16;" + kind + " 15", false);
             stand("block 6;block 14;block 0;block 8;block 16;" + kind + " 15", beam);
+            stand("block 7;block 15;" + kind + " 14", beam);
+            stand("block 5;block 13;block 7;block 15;" + kind + " 14", beam || arch);
+            stand("block 0;block 8;block 2;block 10;" + kind + " 9", beam || arch);
         }
         stand("beam 11;beam 10;beam 9;block 8;block 0;beam 12", true);
         due(15, "two beams bear one another not", palace("beam 10;beam 11").loose(), 3);
@@ -364,6 +367,17 @@ public final class PromiseTest {
         z.hours(1);
         grains(13, "by numbers", z, 20, 22, 21);
         due(13, "air", z.count(4), 7);
+
+        // Columns 2 and 3 drip, each for itself; in column 3 block 0 is the only cold one.
+        IcePalace two = palace("block 11 grains 9;block 3 grains 30;block 2 grains 30;block 26;block 10;candle 0 at 3 power 12 lit;cold -7");
+        two.hours(1);
+        grains(13, "of each column", two, 11, 25, 30, 0, 21);
+        due(13, "air", two.count(4), 0);
+        due(13, "rubble of what frost had mended", two.count(5), 22);
+        two.candle(0, 0, 2);
+        two.hours(1);
+        grains(13, "of each column", two, 11, 25, 25, 0, 23);
+        due(13, "air", two.count(4), 3);
 
         IcePalace most = palace("block 0 grains 40;pillar 40 grains 99;block 7 grains 98;candle 0 at 0 power 30 lit;cold -20");
         most.take(1, 8);
@@ -754,6 +768,8 @@ public final class PromiseTest {
         due(35, "its power is not told", x.candle(5, 1, 3), 30);
         due(35, "lit without power", tell(x, "candle 5 at 0 lit"), 1);
         due(35, "light", x.light(), 3);
+        due(35, "power 0", tell(x, "candle 5 at 0 power 0 lit"), 1);
+        due(35, "light", x.light(), 0);
         due(35, "no blanks, many blanks", tell(x, "  cold-3;candle1at07power030lit  ;   cold - 0004   "), 3);
         due(35, "item by item, the last counts", x.cold(0), -4);
         due(35, "power", x.candle(1, 1, 0), 30);
@@ -786,6 +802,14 @@ public final class PromiseTest {
         fault("blocks 1", 0);
         fault("Block 1", 0);
         fault(" 1", 1);
+        fault("mold 3", 0);
+        fault("coldz 3", 0);
+        fault("acold 3", 0);
+        fault("cold 3" + (char) 0, 6);
+        fault("cold 3`", 6);
+        fault("cold 3/", 6);
+        fault("cold 3:", 6);
+        fault("cold 3{", 6);
         fault(";", 0);
         fault("block", 5);
         fault("block  ", 7);
