@@ -9,8 +9,8 @@ import java.util.regex.Matcher;
 import java.util.regex.Pattern;
 
 /**
- * A second reading of the document, written without a look at IcePalace: slow, with copies of all and sets of
- * names, so that a slip in one of the two shows as a difference.
+ * A second reading of the document that shares no code with IcePalace: slow, with copies of all and sets of
+ * objects, so that a slip in one of the two shows as a difference.
  */
 final class Model {
     static final int BEYOND = -1000001;
