@@ -1,23 +1,5 @@
 /** Each promise by hand: ordinary inputs, the edges that the document names, wrong inputs. */
-public final class PromiseTest {
-    private static final int BEYOND = -1000001;
-    private static final int FULL = -1000002;
-    private static final int KIND = -1000003;
-    private static final int NONE = -1000004;
-    private static final int STATE = -1000005;
-    private static final int MISSING = -1000006;
-    private static final int SIZE = -1000007;
-    private static final int MIN = Integer.MIN_VALUE;
-    private static final int MAX = Integer.MAX_VALUE;
-
-    private static final int BLOCK = 0;
-    private static final int ARCH = 1;
-    private static final int BEAM = 2;
-    private static final int THRONE = 3;
-    private static final int PILLAR = 4;
-    private static final int LINTEL = 5;
-    private static final int ICICLE = 6;
-
+public final class PromiseTest extends Palaces {
     private static final Due DUE = new Due("PromiseTest");
 
     public static void main(String[] args) {
@@ -56,35 +38,6 @@ public final class PromiseTest {
         for (int i = 0; i < got.length; i++) {
             due(promise, calls + " (" + i + ")", got[i], want);
         }
-    }
-
-    private static void feed(IcePalace x, String text) {
-        for (int i = 0; i < text.length(); i++) {
-            x.feed(text.charAt(i), 1);
-        }
-    }
-
-    private static int tell(IcePalace x, String text) {
-        feed(x, text);
-        return x.text();
-    }
-
-    private static IcePalace palace(String text) {
-        IcePalace x = new IcePalace();
-        DUE.holds("a palace of '" + text + "'", tell(x, text) > 0);
-        return x;
-    }
-
-    /** A palace whose HOUR is so; it takes some 210 calls. */
-    private static IcePalace aged(int hour) {
-        IcePalace x = new IcePalace();
-        while (x.count(0) + 48 <= hour) {
-            x.hours(48);
-        }
-        if (x.count(0) < hour) {
-            x.hours(hour - x.count(0));
-        }
-        return x;
     }
 
     private static void promise1() {
@@ -975,54 +928,47 @@ public final class PromiseTest {
         due(38, "laid anew all are 0", x.load(0), 0);
     }
 
-    private static void write(IcePalace x, int s, int... numbers) {
-        x.sheet(s, 8, numbers.length);
-        for (int i = 0; i < numbers.length; i++) {
-            x.write(s, i, numbers[i]);
-        }
-    }
-
     private static void readers() {
         IcePalace x = palace("block 0;block 47;block 8;block 1");
         x.fall();
-        write(x, 0, 7, 8, 9, 10, 11);
+        write(x, 0, 8, 7, 8, 9, 10, 11);
         due(41, "no block for the fifth", x.load(0), 4);
         grains(41, "a GONE one's is passed", x, 7, 0, 9, 10);
-        write(x, 0, 1, 100, 3, 4);
+        write(x, 0, 8, 1, 100, 3, 4);
         due(41, "100, though of a GONE one", x.load(0), 1);
         grains(41, "those ahead of it", x, 1, 0, 9, 10);
-        write(x, 0, 99, 1, 0, 4);
+        write(x, 0, 8, 99, 1, 0, 4);
         due(41, "0", x.load(0), 2);
         grains(41, "those ahead of it", x, 99, 0, 9, 10);
-        write(x, 0, -1);
+        write(x, 0, 8, -1);
         due(41, "-1", x.load(0), 0);
-        write(x, 0);
+        write(x, 0, 8);
         due(41, "an empty one", x.load(0), 0);
         all(41, "load beyond", BEYOND, x.load(4), x.load(-1), x.load(MIN), x.load(MAX));
         due(41, "load of a missing one", x.load(3), MISSING);
 
-        write(x, 1, 0, 2, 3);
+        write(x, 1, 8, 0, 2, 3);
         due(42, "judge", x.judge(1), 0);
-        write(x, 1, 3, 0, 2);
+        write(x, 1, 8, 3, 0, 2);
         due(42, "another order", x.judge(1), 0);
-        write(x, 1, 2, 0, 3);
+        write(x, 1, 8, 2, 0, 3);
         due(42, "it doesn't stand as it comes", x.judge(1), 1);
-        write(x, 1, 0, 1, 2, 3);
+        write(x, 1, 8, 0, 1, 2, 3);
         due(42, "it is GONE", x.judge(1), 2);
-        write(x, 1, 0, 2, 0);
+        write(x, 1, 8, 0, 2, 0);
         due(42, "it was told", x.judge(1), 3);
-        write(x, 1, 0, 2, 3, 4);
+        write(x, 1, 8, 0, 2, 3, 4);
         due(42, "it is no block", x.judge(1), 4);
-        write(x, 1, 0, -1);
+        write(x, 1, 8, 0, -1);
         due(42, "it is no block", x.judge(1), 2);
-        write(x, 1, 0, 2);
+        write(x, 1, 8, 0, 2);
         due(42, "not all", x.judge(1), 41);
-        write(x, 1);
+        write(x, 1, 8);
         due(42, "an empty one", x.judge(1), 41);
         all(42, "judge beyond", BEYOND, x.judge(4), x.judge(-1), x.judge(MIN), x.judge(MAX));
         due(42, "judge of a missing one", x.judge(3), MISSING);
         IcePalace y = new IcePalace();
-        write(y, 0);
+        write(y, 0, 8);
         due(42, "no blocks", y.judge(0), 0);
     }
 
