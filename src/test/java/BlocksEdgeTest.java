@@ -172,6 +172,7 @@ public final class BlocksEdgeTest extends Edges {
         same("it is GONE, to where it was", oneGone().take(0, 47), STATE);
         same("it is GONE, and another one is there", oneGone().take(0, 0), STATE);
         same("another one is there", x.take(0, 5), STATE);
+        same("block 0 is there", x.take(1, 0), STATE);
         same("all is as it was", x.on(0) == 0 ? x.on(5) : -1, 1);
         same("to a GONE one's cell", oneGone().take(1, 47), 0);
     }

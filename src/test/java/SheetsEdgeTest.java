@@ -531,6 +531,7 @@ public final class SheetsEdgeTest extends Edges {
         tell(x, "lintel 40 grains 8;candle 1 at 2;candle 4 at 5 power 9 lit;cold 17");
         x.hold(3, -1);
         x.hold(0, 0);
+        x.hold(9, 3);
         x.turn(0, THRONE);
         x.hours(2);
         x.block(BEAM, 6, 50);
@@ -548,6 +549,19 @@ public final class SheetsEdgeTest extends Edges {
         upset(x);
         same("undo()", x.undo(), 1);
         unchanged("image(), much else and undo()", x, twin());
+        IcePalace full = sixteen();
+        full.image();
+        for (int b = 0; b < 16; b++) {
+            full.turn(b, LINTEL);
+            full.take(b, b + 16);
+            full.water(b, 50);
+        }
+        full.undo();
+        for (int b = 0; b < 16; b++) {
+            same("the kind of " + b, full.blockOf(b, 0), BLOCK);
+            same("the cell of " + b, full.blockOf(b, 1), b);
+            same("the grains of " + b, full.blockOf(b, 2), 9);
+        }
         IcePalace tape = new IcePalace();
         feed(tape, "cold 1");
         tape.image();

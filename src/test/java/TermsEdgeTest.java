@@ -451,6 +451,13 @@ public final class TermsEdgeTest extends Edges {
         for (int b = 0; b < 6; b++) {
             same("load of " + b + " of six", x.blockOf(b, 5), b == 5 ? 0 : 99 * (4 - b) + 98);
         }
+        for (int row = 5; row >= 0; row--) {
+            x.take(5 - row, 8 * row + 7);
+        }
+        same("up to the last cell", x.blockOf(5, 5), 5 * 99);
+        for (int b = 0; b < 6; b++) {
+            x.take(b, 8 * b + 3);
+        }
         x.take(2, 20);
         same("as far as there is one on each", x.blockOf(0, 5), 99);
         same("up to the gap", x.blockOf(1, 5), 0);
@@ -648,6 +655,7 @@ public final class TermsEdgeTest extends Edges {
         hour("of several together", "block 24 grains 9;pillar 16 grains 50;pillar 8 grains 50;pillar 0 grains 90;"
             + "candle 0 at 0 power 30 lit;cold -10", 13, 21, 50, 45, 70);
         hour("the last column", "block 15 grains 20;pillar 7 grains 90;candle 0 at 7 power 16 lit;cold -9", 4, 23, 83);
+        lastCell();
         IcePalace again = palace("block 8 grains 20;pillar 0 grains 90" + by);
         again.hours(2);
         grains("no drip is left for the next hour", again, 26, 76);
@@ -672,6 +680,18 @@ public final class TermsEdgeTest extends Edges {
         says(0, "AIR, RUBBLE are 0 at first.");
         same("air", new IcePalace().count(4), 0);
         same("rubble", new IcePalace().count(5), 0);
+    }
+
+    /** DRIP from the lowest cell of the last column to the highest, which a column beside bears. */
+    private void lastCell() {
+        IcePalace x = palace("lintel 47 grains 20;candle 0 at 7 power 20 lit;cold -10");
+        for (int cell = 6; cell < 48; cell += 8) {
+            x.block(PILLAR, cell, 90);
+        }
+        x.block(PILLAR, 7, 90);
+        x.hours(1);
+        grains("the last cell", x, 25, 90, 90, 90, 90, 90, 90, 80);
+        same("air, the last cell", x.count(4), 5);
     }
 
     /** GRAINS and AIR behind one hour of a palace. */
@@ -808,6 +828,10 @@ public final class TermsEdgeTest extends Edges {
         says(0, "WORDS (letters a to z),");
         fault("zzz", 0);
         fault("aaa", 0);
+        fault("coldz 3", 0);
+        fault("colda 3", 0);
+        fault("acold 3", 0);
+        fault("zcold 3", 0);
         fault("Cold 3", 0);
         fault("coLd 3", 0);
         for (int sign : new int[] {'`', '{', 'A', 'Z', 'a' + 128}) {
