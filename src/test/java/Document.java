@@ -45,6 +45,10 @@ final class Document {
         return section.replaceAll("(?m)^```.*$", "").replaceAll("(?m)^\\d\\. ", "").replaceAll("\\s+", " ").trim();
     }
 
+    String section(int section) {
+        return words[section];
+    }
+
     /** Marks a quote, where it stands several times the next of them: whether it stands there at all. */
     boolean quote(int section, String quote) {
         int at = words[section].indexOf(quote);
